@@ -353,7 +353,8 @@ public final class WordBench {
 
         /** To what a move leads; NONE also where no such state or letter is. */
         int target(int state, int l) {
-            return hasState(state) && hasLetter(l) ? moves[state * LETTERS + l] : NONE;
+            boolean there = state >= 0 && state < states && state < STATES && l >= 0 && l < letters && l < LETTERS;
+            return there ? moves[state * LETTERS + l] : NONE;
         }
 
         void lead(int state, int l, int to) {
@@ -639,7 +640,7 @@ public final class WordBench {
         }
 
         static boolean isOne(int set) {
-            return set != 0 && (set & (set - 1)) == 0;
+            return set > 0 && (set & (set - 1)) == 0;
         }
 
         int size() {

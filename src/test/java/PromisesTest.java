@@ -321,6 +321,11 @@ final class PromisesTest {
         far.letter(2);
         due("14 above 600 letters told", far.shortest(0, 630), 633);
         checks.dueWord("14 above 600 the word stays", far, "2");
+        due("14 601 letters told", far.shortest(0, 2409), 601);
+        checks.dueWord("14 601 letters are too many", far, "2");
+        due("14 600 letters", far.shortest(0, 1866), 600);
+        due("14 600 letters become the word", far.count(1), 600);
+        checks.holds("14 600 letters bring it to one state", Integer.bitCount(far.goes(0, 1866)) == 1);
     }
 
     private static void shortestTo() {
