@@ -1029,6 +1029,7 @@ public final class WordBench {
             return kinds | (allInOrder ? IN_ORDER : 0) | (allSwap ? SWAP : 0);
         }
 
+        /** Who comes back to 0 just with the last step has passed each state. */
         private static boolean isRound(Machine m, int l) {
             int state = 0;
             for (int i = 1; i < m.states(); i++) {
@@ -1037,7 +1038,7 @@ public final class WordBench {
                     return false;
                 }
             }
-            return isSwap(m, l) && m.target(state, l) == 0;
+            return m.target(state, l) == 0;
         }
 
         private static boolean hasLoop(Machine m, int l) {

@@ -1,5 +1,13 @@
 /** Counts the answers of one test that are not as due, and ends it. */
 final class Checks {
+    /**
+     * From the set 630 it is 633 letters to a set of one state: no word so long may become the word.
+     * From the set 1866 it is just 600, from the set 2409 one more.
+     */
+    static final int[][] FAR = {
+        {6, 9, 8}, {5, 7, 2}, {0, -1, 9}, {3, 7, 3}, {2, 11, 0}, {1, 3, -1},
+        {8, -1, 10}, {11, -1, -1}, {10, -1, 6}, {4, 8, -1}, {7, -1, -1}, {9, 10, 5}};
+
     private final String name;
     private int seen;
     private int wrong;
@@ -45,7 +53,8 @@ final class Checks {
     /** The word as a row of digits. */
     static String wordOf(WordBench x) {
         StringBuilder row = new StringBuilder();
-        for (int i = 0; i < x.count(1); i++) {
+        int length = x.count(1);
+        for (int i = 0; i < length; i++) {
             row.append(x.letterAt(i));
         }
         return row.toString();

@@ -2,10 +2,7 @@
 final class PromisesTest {
     private static final int NONE = -1, BAD = -2, NO = -3, FULL = -4;
     private static final int MAX = Integer.MAX_VALUE, MIN = Integer.MIN_VALUE;
-    /** From the set 630 it is 633 letters to a set of one state: no word so long may become the word. */
-    private static final int[][] FAR = {
-        {6, 9, 8}, {5, 7, 2}, {0, -1, 9}, {3, 7, 3}, {2, 11, 0}, {1, 3, -1},
-        {8, -1, 10}, {11, -1, -1}, {10, -1, 6}, {4, 8, -1}, {7, -1, -1}, {9, 10, 5}};
+    private static final int[][] FAR = Checks.FAR;
 
     private static final Checks checks = new Checks("PromisesTest");
 
