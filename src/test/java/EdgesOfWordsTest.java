@@ -429,19 +429,20 @@ final class EdgesOfWordsTest {
     static void promise15At600LettersAndOneMore() {
         WordBench x = Edges.with(Checks.FAR);
         Edges.spell(x, "2");
-        int[] told = {0, 0};
+        int of601 = 0;
         for (int q = 0; q < 12; q++) {
-            told[0] += x.shortestTo(0, 2409, q) == 601 ? 1 : 0;
+            of601 += x.shortestTo(0, 2409, q) == 601 ? 1 : 0;
             Edges.dueWord("601 do not become the word", x, "2");
         }
-        Edges.due("601 are told of one state", told[0], 1);
+        Edges.due("601 are told of one state", of601, 1);
+        int of600 = 0;
         for (int q = 0; q < 12; q++) {
             if (x.shortestTo(0, 1866, q) == 600) {
-                told[1]++;
+                of600++;
                 Edges.due("600 become the word", x.count(1), 600);
             }
         }
-        Edges.due("600 are told of one state", told[1], 1);
+        Edges.due("600 are told of one state", of600, 1);
     }
 
     // ---- 16: rank
@@ -760,6 +761,16 @@ final class EdgesOfWordsTest {
         Edges.due("how long", x.greedy(0, 4095), 154);
         Edges.due("as told", x.count(1), 154);
         Edges.due("right", x.goes(0, 4095), 1);
+    }
+
+    static void promise19ALongWord() {
+        // the longest that was found: no machine is known by which the 600 letters are too few
+        WordBench x = Edges.with(new int[][] {
+            {0, 10, NONE, 0}, {1, 5, NONE, 1}, {2, 7, 9, NONE}, {3, 2, NONE, 3}, {4, 11, 1, 4}, {5, 4, NONE, 5},
+            {NONE, 9, NONE, 6}, {7, 8, NONE, 7}, {8, 1, NONE, 8}, {9, 0, NONE, 9}, {10, 3, NONE, 10}, {6, 6, 8, 6}});
+        Edges.due("how long", x.greedy(0, 3967), 373);
+        Edges.due("as told", x.count(1), 373);
+        Edges.due("right", Integer.bitCount(x.goes(0, 3967)), 1);
     }
 
     static void promise19EachRing() {
