@@ -482,8 +482,13 @@ final class EdgesOfKindsTest {
         dueColoured(7, "1223 0332 3001 3010");
         dueColoured(8, "0122 1033 2300 3211");
         dueColoured(12, "2333 3222 0111 3200");
+        dueColoured(24, "0001 1110 1110");
+        dueColoured(48, "0011 1100 0222");
+        dueColoured(72, "1023 0132 3201 2310 0132");
         dueColoured(96, "2320 3231 0102 1002 3302");
+        dueColoured(144, "0222 2000 1111");
         dueColoured(168, "0323 1232 2101 3010 3330");
+        dueColoured(192, "2133 3022 0311 1200 2133");
         dueColoured(576, "0010 1101 1202 1323");
     }
 
@@ -492,6 +497,18 @@ final class EdgesOfKindsTest {
         dueColoured(1296, "010 101 210 155 143 024");
         dueColoured(1297, "006 660 360 221 301 166 112");
         Edges.due("1024", Edges.with(padded(new int[][] {{0, 1}, {1, 0}}, 12)).colour(0), 1024);
+    }
+
+    static void promise24AllOrdersOfTheLastStateComeToNothing() {
+        // each of its 24 orders is looked at for each of the others'
+        dueColoured(24, "0001 1110 2221");
+        dueColoured(24, "1020 1021 2333 3212 2333");
+        dueColoured(48, "1300 0311 3033 2222");
+        dueColoured(48, "2211 1122 0000");
+        dueColoured(48, "3300 0033 0033 2111");
+        dueColoured(72, "2113 1221 2113 3442 4342 5330");
+        dueColoured(144, "3011 3000 1333 2222");
+        dueColoured(168, "1323 0232 3101 3110 3010");
     }
 
     private static void dueNone(int[][] moves) {
