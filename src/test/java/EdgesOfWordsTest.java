@@ -903,6 +903,24 @@ final class EdgesOfWordsTest {
         Edges.due("become the word", x.count(1), 600);
     }
 
+    static void promise20ManySearchesBeforeDoNotMatter() {
+        // each search ends with some 1600 sets that have a sum and are not settled
+        WordBench x = new WordBench();
+        x.machine(12, 4);
+        for (int s = 0; s < 12; s++) {
+            x.move(0, s, 0, (s + 1) % 12);
+            x.move(0, s, 1, s == 7 ? 6 : s);
+            x.move(0, s, 2, (12 - s) % 12);
+            x.move(0, s, 3, (7 * s + 1) % 12);
+        }
+        x.price(0, 2, 4);
+        x.price(0, 3, 17);
+        for (int i = 0; i < 400; i++) {
+            Edges.due("search " + i, x.cheapest(0, 4095), 21);
+        }
+        Edges.due("right", Integer.bitCount(x.goes(0, 4095)), 1);
+    }
+
     // ---- 21: chance
 
     static void promise21MachinesThatAreThere() {
